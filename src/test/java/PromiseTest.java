@@ -71,6 +71,7 @@ public final class PromiseTest {
         line();
         lineRings();
         lineDepths();
+        lineDepthsOfFirst();
         c.about("22 kin");
         kin();
         kinDeep();
@@ -139,6 +140,7 @@ public final class PromiseTest {
         trace();
         c.about("46 undo");
         undo();
+        undoneNumbers();
         undoOfEach();
         c.about("47 digest");
         digest();
@@ -705,6 +707,15 @@ public final class PromiseTest {
         c.answer(y, "inspect(0, 1)", y.inspect(0, 1), 1);
         c.answer(y, "inspect(1, 1)", y.inspect(1, 1), 0);
         c.answer(y, "inspect(1, 4), the FINDING stays", y.inspect(1, 4), 1);
+        BeeYard w = new BeeYard();
+        w.hive(70);
+        w.hive(60);
+        w.day(1);
+        c.answer(w, "join(0, 1)", w.join(0, 1), 0);
+        c.answer(w, "inspect(0, 2), both HUNGERS", w.inspect(0, 2), 130);
+        c.answer(w, "inspect(1, 2)", w.inspect(1, 2), 0);
+        c.answer(w, "inspect(0, 0)", w.inspect(0, 0), 128);
+        c.answer(w, "inspect(1, 0)", w.inspect(1, 0), 0);
         BeeYard z = yard(1, 1);
         z.day(1);
         z.hive(0);
@@ -741,6 +752,9 @@ public final class PromiseTest {
         c.answer(x, "split(1, 0, 3)", x.split(1, 0, 3), 2);
         c.answer(x, "inspect(1, 0)", x.inspect(1, 0), 0);
         c.answer(x, "inspect(3, 0)", x.inspect(3, 0), 266);
+        BeeYard z = yard(1, 0);
+        c.answer(z, "split(0, 0, 1) of one BOX", z.split(0, 0, 1), 1);
+        c.answer(z, "inspect(1, 0)", z.inspect(1, 0), 200);
         BeeYard y = yard(2, 0);
         y.frame(0, 64);
         for (int i = 0; i < 5; i++) {
@@ -840,6 +854,22 @@ public final class PromiseTest {
         c.answer(x, "line(0, -1, -1)", x.line(0, -1, -1), 0);
     }
 
+    private static void lineDepthsOfFirst() {
+        BeeYard x = new BeeYard();
+        for (int t = 0; t < 4; t++) {
+            x.thing(0);
+        }
+        c.answer(x, "line(0, 3, -1)", x.line(0, 3, -1), 1);
+        x.undo();
+        c.answer(x, "line(1, 0, -1) after undo()", x.line(1, 0, -1), 1);
+        c.answer(x, "line(0, 2, -1)", x.line(0, 2, -1), 1);
+        c.answer(x, "line(2, 3, -1)", x.line(2, 3, -1), 1);
+        c.answer(x, "ask(0, 10)", x.ask(0, 10), 2);
+        c.answer(x, "ask(1, 10)", x.ask(1, 10), 3);
+        c.refused(x, "line(3, 0, -1)", x.line(3, 0, -1), 7);
+        c.refused(x, "line(3, 1, -1)", x.line(3, 1, -1), 7);
+    }
+
     private static void lineDepths() {
         BeeYard x = new BeeYard();
         for (int t = 0; t < 18; t++) {
@@ -889,6 +919,18 @@ public final class PromiseTest {
         c.answer(x, "kin(5, 2)", x.kin(5, 2), whole / 2 + whole / 8);
         c.answer(x, "kin(5, 5)", x.kin(5, 5), whole);
         c.answer(x, "kin(1, 5)", x.kin(1, 5), whole / 4);
+        // It goes by DEPTHS, not by numbers: here the later made are the parents.
+        BeeYard y = new BeeYard();
+        for (int t = 0; t < 5; t++) {
+            y.thing(t == 3 ? 3 : 0);
+        }
+        y.line(2, 4, -1);
+        y.line(1, 4, 3);
+        y.line(0, 2, 3);
+        c.answer(y, "kin(0, 4)", y.kin(0, 4), whole / 4);
+        c.answer(y, "kin(0, 1)", y.kin(0, 1), whole / 8 + whole / 4);
+        c.answer(y, "kin(1, 2)", y.kin(1, 2), whole / 4);
+        c.answer(y, "kin(0, 3)", y.kin(0, 3), whole / 2);
     }
 
     /** Two lines of 15 from one pair: the parts are exact down to the last one. */
@@ -1004,6 +1046,12 @@ public final class PromiseTest {
         x.day(1);
         runs(x, 1, 4, -5, 6, 4);
         runs(x, 1, 7, 1, 13, 6, 4);
+        BeeYard z = new BeeYard();
+        z.hive(3);
+        z.swarm(0, 4);
+        z.swarm(0, 5);
+        runs(z, 0, 6, 1, 15, 10);
+        runs(z, 1, 6, 0, 15, 12, 10);
         BeeYard y = new BeeYard();
         y.hive(9000);
         y.swarm(0, 5);
@@ -1353,6 +1401,14 @@ public final class PromiseTest {
     }
 
     private static void findings() {
+        BeeYard y = yard(1, 1);
+        y.frame(0, 9);
+        y.frame(96, 9);
+        y.thing(3);
+        y.slot(1, 0);
+        y.day(3);
+        c.answer(y, "inspect(0, 10), no Queen", y.inspect(0, 10), 9);
+        c.answer(y, "inspect(1, 10), a Drone", y.inspect(1, 10), 9);
         BeeYard x = yard(0, 0, 0);
         c.answer(x, "inspect(0, 4) at first", x.inspect(0, 4), 0);
         x.thing(0);
@@ -1421,6 +1477,17 @@ public final class PromiseTest {
         c.answer(y, "honey(2)", y.honey(2), 200);
         c.answer(y, "inspect(0, 0)", y.inspect(0, 0), 19500);
         c.answer(y, "inspect(0, 2)", y.inspect(0, 2), 0);
+        BeeYard w = new BeeYard();
+        w.hive(15000);
+        w.box(0);
+        w.frame(0, 1);
+        w.frame(1, 9);
+        w.bring(0, 500);
+        w.day(1);
+        c.answer(w, "field(0, 0)", w.field(0, 0), 0);
+        c.answer(w, "field(1, 0)", w.field(1, 0), 50);
+        c.answer(w, "field(1, 1)", w.field(1, 1), 100);
+        c.answer(w, "honey(2)", w.honey(2), 150);
         // DRONES eat, too.
         BeeYard z = new BeeYard();
         z.hive(0);
@@ -1638,6 +1705,7 @@ public final class PromiseTest {
         // 7 * k * 10000 is above a * 600000 from k = a * 60 / 7 on, and k * 7 = a * 60 is not above.
         c.answer(y, "plan(1, 10000)", y.plan(1, 10000), 30 - 9);
         c.answer(y, "plan(0, 10000)", y.plan(0, 10000), 30 - 1);
+        c.refused(y, "plan(1, 0) of one", y.plan(1, 0), 4);
         c.answer(y, "plan(10000, 1), beyond an int", y.plan(10000, 1), 0);
         y.sample(0, 4, 1);
         y.sample(0, 0, 9999);
@@ -1782,6 +1850,10 @@ public final class PromiseTest {
         c.answer(x, "find(300, 0)", x.find(300, 0), -1);
         c.answer(x, "find(-1, 0)", x.find(-1, 0), -1);
         c.answer(x, "find(MIN, 0)", x.find(MIN, 0), -1);
+        x.put(14, 0, 200);
+        x.put(14, 3, 400);
+        c.answer(x, "find(200, 0)", x.find(200, 0), 14);
+        c.answer(x, "find(400, 0)", x.find(400, 0), 14);
         x.out(203);
         c.answer(x, "find(307, 0), on the BENCH", x.find(307, 0), -1);
     }
@@ -1922,6 +1994,27 @@ public final class PromiseTest {
         c.refused(x, "field(0, 2)", x.field(0, 2), 2);
     }
 
+    /** What was taken back leaves nothing in what is made with its number later. */
+    private static void undoneNumbers() {
+        BeeYard x = yard(1, 0);
+        x.frame(0, 9);
+        x.thing(0);
+        x.thing(2);
+        for (int i = 0; i < 3; i++) {
+            x.slot(0, 0);
+            c.answer(x, "swarm(0, 4)", x.swarm(0, 4), 2);
+            x.undo();
+            c.answer(x, "swarm(1, 5)", x.swarm(1, 5), 2);
+            c.answer(x, "ask(0, 14)", x.ask(0, 14), -1);
+            x.undo();
+            c.answer(x, "thing(1)", x.thing(1), 2);
+            c.answer(x, "ask(0, 14)", x.ask(0, 14), -1);
+            c.answer(x, "ask(2, 3)", x.ask(2, 3), 0);
+            x.undo();
+            c.answer(x, "slot(0, -1)", x.slot(0, -1), 0);
+        }
+    }
+
     /** One of each CHANGE on a yard with all sorts of things: digest() and what it does not tell are as they were. */
     private static void undoOfEach() {
         int[] counts = {0};
@@ -1941,7 +2034,7 @@ public final class PromiseTest {
         undone(counts, "line", x -> x.line(2, 0, 3));
         undone(counts, "slot", x -> x.slot(0, -1));
         undone(counts, "lay", x -> x.lay(2, 77));
-        undone(counts, "mate", x -> x.mate(1, 3));
+        undone(counts, "mate", x -> x.mate(5, 3));
         undone(counts, "swarm", x -> x.swarm(0, 4));
         undone(counts, "settle", x -> x.settle(4, 2));
         undone(counts, "sample", x -> x.sample(0, 1, 1));
@@ -1950,7 +2043,7 @@ public final class PromiseTest {
         c.is("CHANGES without day()", counts[0], 22);
         BeeYard x = rich();
         String was = told(x);
-        c.answer(x, "day(30)", x.day(30), 34);
+        c.answer(x, "day(30)", x.day(30), 58);
         x.undo();
         c.is("all is as it was ahead of day()", told(x).equals(was) ? 1 : 0, 1);
     }
@@ -1970,10 +2063,20 @@ public final class PromiseTest {
         x.swarm(1, 4);
         x.slot(1, 1);
         x.slot(0, 0);
-        x.bring(0, 350);
+        x.mate(1, 3);
+        x.thing(1);
+        x.bring(0, 1050);
+        x.put(1, 1, 0);
+        x.put(1, 7, 400);
         x.put(96, 4, 400);
         x.out(5);
-        x.harvest(13);
+        x.day(24);
+        x.put(96, 3, 400);
+        x.harvest(1);
+        x.bring(0, 1990);
+        x.bring(1, 77);
+        x.harvest(96);
+        x.bring(1, 30);
         x.sample(0, 2, 30);
         x.sample(1, 3, 40);
         x.due(0, 4, 5);
@@ -1989,6 +2092,7 @@ public final class PromiseTest {
         c.answer(x, "undo() of " + call, x.undo(), 1);
         c.is("all is as it was ahead of " + call, told(x).equals(was) ? 1 : 0, 1);
         c.answer(x, "undo() again", x.undo(), 0);
+        c.answer(x, "WASHINGS after undo() of " + call, x.sample(0, 0, 1), 2);
         counts[0]++;
     }
 
@@ -2011,8 +2115,8 @@ public final class PromiseTest {
         for (int n = 0; n < 6; n++) {
             all.append(x.where(n)).append(' ');
         }
-        for (int t = 0; t < 6; t++) {
-            for (int what : new int[] {0, 1, 8, 9, 10, 11, 12, 13, 14}) {
+        for (int t = 0; t < 7; t++) {
+            for (int what : new int[] {0, 1, 3, 8, 9, 10, 11, 12, 13, 14}) {
                 all.append(x.ask(t, what)).append(' ');
             }
         }
@@ -2022,7 +2126,9 @@ public final class PromiseTest {
         for (int k = 0; k < 3; k++) {
             all.append(x.ledger(k, 0)).append(' ').append(x.ledger(k, 1)).append(' ').append(x.ledger(k, 2)).append(' ');
         }
-        all.append(x.plan(1, 100));
+        for (int a = 0; a < 20; a++) {
+            all.append(x.plan(a, 100)).append(' ');
+        }
         return all.toString();
     }
 
@@ -2061,7 +2167,7 @@ public final class PromiseTest {
                 all.add(n == 3 ? benched(x, i) : x.field(x.where(n), i));
             }
         }
-        int things = x.ask(5, 0) >= 0 ? 6 : 5;
+        int things = x.ask(6, 0) >= 0 ? 7 : 6;
         all.add(things);
         for (int t = 0; t < things; t++) {
             all.add(x.ask(t, 0));
@@ -2071,7 +2177,7 @@ public final class PromiseTest {
         for (int what = 0; what < 5; what++) {
             all.add(x.honey(what));
         }
-        all.add(1);
+        all.add(2);
         for (int b = 0; b < 17; b++) {
             all.add(x.trace(b));
         }

@@ -53,7 +53,8 @@ public final class RandomRunsTest {
         Map<String, int[]> tally = new TreeMap<>();
         for (int seed = 0; seed < runs; seed++) {
             RandomRunsTest run = new RandomRunsTest(seed);
-            if (!run.passes(methods, tally)) {
+            boolean full = seed % 100 == 0;
+            if (full && !run.fills(methods) || !run.passes(methods, tally)) {
                 System.out.println("seed " + seed + ":");
                 run.told.forEach(System.out::println);
                 System.exit(1);
@@ -88,16 +89,37 @@ public final class RandomRunsTest {
             for (int i = 0; i < numbers.length; i++) {
                 numbers[i] = random.nextInt(wildness) == 0 ? wild() : number(words[i + 1]);
             }
-            int due = plain.call(words[0], numbers);
-            int got = answer(methods.get(words[0]), numbers);
-            told.add(words[0] + Arrays.toString(numbers) + " answered " + got + " with STATUS " + yard.status() + ", due is "
-                + due + " with " + plain.call("status", numbers));
-            tally.computeIfAbsent(words[0], x -> new int[9])[yard.status()]++;
-            if (got != due || !isLike()) {
+            if (!step(methods, words[0], numbers)) {
                 return false;
             }
+            tally.computeIfAbsent(words[0], x -> new int[9])[yard.status()]++;
         }
         return true;
+    }
+
+    private boolean step(Map<String, Method> methods, String call, int... numbers) throws IllegalAccessException {
+        int due = plain.call(call, numbers);
+        int got = answer(methods.get(call), numbers);
+        told.add(call + Arrays.toString(numbers) + " answered " + got + " with STATUS " + yard.status() + ", due is " + due
+            + " with " + plain.call("status", numbers));
+        return got == due && isLike();
+    }
+
+    /** All that a yard can hold; more calls than are promised for, but none may throw, and no row may be overrun. */
+    private boolean fills(Map<String, Method> methods) throws IllegalAccessException {
+        boolean like = true;
+        for (int i = 0; i < 40 * 8 && like; i++) {
+            like = (i % 8 > 0 || step(methods, "hive", i * 60)) && step(methods, "box", i / 8);
+        }
+        for (int i = 0; i < 200 && like; i++) {
+            like = step(methods, "frame", 3839 - i * 19, 64 - i % 3) && step(methods, "thing", i % 4)
+                && step(methods, "harvest", 3839 - i * 19) && (i < 2 || step(methods, "line", i, (i - 1) / 16 * 4, -1));
+        }
+        for (int i = 0; i < 40 && like; i++) {
+            like = step(methods, "slot", i, i) && step(methods, "bring", i, 9000)
+                && (i >= 24 || step(methods, "out", 3839 - i * 19));
+        }
+        return like;
     }
 
     private boolean isLike() {
