@@ -1,0 +1,45 @@
+import java.lang.reflect.InvocationTargetException;
+import java.lang.reflect.Method;
+import java.util.HashMap;
+import java.util.Map;
+
+/** Makes a call of BeeYard that is written out as in the document, such as "frame(3, 64)"; MIN and MAX are the ends of int. */
+final class Calls {
+    private static final Map<String, Method> METHODS = new HashMap<>();
+
+    static {
+        for (Method method : BeeYard.class.getMethods()) {
+            if (method.getDeclaringClass() == BeeYard.class) {
+                METHODS.put(method.getName(), method);
+            }
+        }
+    }
+
+    private Calls() {
+    }
+
+    static int make(BeeYard yard, String call) {
+        int open = call.indexOf('(');
+        Method method = METHODS.get(call.substring(0, open));
+        String inside = call.substring(open + 1, call.length() - 1).trim();
+        String[] words = inside.isEmpty() ? new String[0] : inside.split(",");
+        Object[] numbers = new Object[words.length];
+        for (int i = 0; i < words.length; i++) {
+            numbers[i] = number(words[i].trim());
+        }
+        try {
+            return (Integer) method.invoke(yard, numbers);
+        } catch (InvocationTargetException e) {
+            throw new IllegalStateException(call + " threw", e.getCause());
+        } catch (IllegalAccessException e) {
+            throw new IllegalStateException(call + " is not public", e);
+        }
+    }
+
+    private static int number(String word) {
+        if (word.equals("MIN")) {
+            return Integer.MIN_VALUE;
+        }
+        return word.equals("MAX") ? Integer.MAX_VALUE : Integer.parseInt(word);
+    }
+}
