@@ -9,11 +9,6 @@ public final class DayEdgesTest {
         Edges.run(DayEdgesTest.class);
     }
 
-    /** THINGS 0 to 5, each of the KIND that is its number, and a HIVE without BEES. */
-    private static void oneOfEach(Run y) {
-        y.does("thing(0); thing(1); thing(2); thing(3); hive(0); swarm(0, 4); swarm(0, 5)");
-    }
-
     /** A HIVE without BEES, one BOX, and in its SLOT a Mated that LAYS so many a day, 5 to 205. */
     private static void laying(Run y, int eggs) {
         y.does("hive(0); box(0); thing(2); slot(0, 0); lay(0, " + (eggs - 5) + ")");
@@ -40,7 +35,7 @@ public final class DayEdgesTest {
     // ---- 23 ask: the ACTS and their BODIES
 
     static void promise23_ask_tells(Run y) {
-        oneOfEach(y);
+        Yards.oneOfEachKind(y, 0);
         int[] first = {1000, 1000, 1000, -1, 0, 5000};
         int[] later = {1001, 1002, 1001, -2, 1, 5001};
         for (int t = 0; t < 6; t++) {
@@ -53,7 +48,7 @@ public final class DayEdgesTest {
     }
 
     static void promise23_ask_tellsRuns(Run y) {
-        oneOfEach(y);
+        Yards.oneOfEachKind(y, 0);
         y.runs("ask(0, 2)", 3, 1);
         y.runs("ask(1, 2)", 3, 1);
         y.runs("ask(2, 2)", 3, 1);
@@ -63,7 +58,7 @@ public final class DayEdgesTest {
     }
 
     static void promise23_ask_carriesRuns(Run y) {
-        oneOfEach(y);
+        Yards.oneOfEachKind(y, 0);
         for (int t = 0; t <= 3; t++) {
             y.runs("ask(" + t + ", 3)", 2);
             y.gives(0, "ask(" + t + ", 3)");
@@ -73,7 +68,7 @@ public final class DayEdgesTest {
     }
 
     static void promise23_ask_laysRuns(Run y) {
-        oneOfEach(y);
+        Yards.oneOfEachKind(y, 0);
         y.runs("ask(0, 4)", 4);
         y.runs("ask(1, 4)", 6);
         y.runs("ask(2, 4)", 7, 4);
@@ -82,7 +77,7 @@ public final class DayEdgesTest {
     }
 
     static void promise23_ask_truthsRun(Run y) {
-        oneOfEach(y);
+        Yards.oneOfEachKind(y, 0);
         y.runs("ask(0, 5)", 14, 3, 1);
         y.runs("ask(3, 5)", 14, 8, 1);
         y.runs("ask(4, 5)", 14, 1);
@@ -96,7 +91,7 @@ public final class DayEdgesTest {
     }
 
     static void promise23_ask_otherNumbersAndRefusedOnesRunNothing(Run y) {
-        oneOfEach(y);
+        Yards.oneOfEachKind(y, 0);
         for (int what : new int[] {0, 1, 8, 9, 10, 11, 12, 13, 14, 15, -1}) {
             y.runs("ask(2, " + what + ")");
         }
@@ -237,7 +232,7 @@ public final class DayEdgesTest {
     }
 
     static void promise27_day_refusedOnesRunNothing(Run y) {
-        oneOfEach(y);
+        Yards.oneOfEachKind(y, 0);
         y.runs("day(0)");
         y.runs("day(31)");
         y.refuses(6, "day(0)");
@@ -262,7 +257,7 @@ public final class DayEdgesTest {
     }
 
     static void promise27_day_passing(Run y) {
-        oneOfEach(y);
+        Yards.oneOfEachKind(y, 0);
         y.runs("day(1)", 16, 16, 16, 16, 16, 16, 0, 0, 0, 0, 0, 0, 0, 5, 9, 9);
         y.does("day(1)");
         int[] days = {1, 2, 1, 1, 1, 1};
@@ -560,6 +555,25 @@ public final class DayEdgesTest {
         y.gives(9, "inspect(2, 10)");
     }
 
+    static void promise27_day_layingWithoutRoomGoesNowhereElse(Run y) {
+        y.does("hive(0); hive(0); box(0); box(1); frame(96, 9); frame(97, 9); frame(6, 2); out(97); thing(0); slot(0, 0); day(1)");
+        y.gives(2, "inspect(0, 7)");
+        y.gives(9, "inspect(1, 10)");
+        y.does("back(0, 97)");
+        y.gives(18, "inspect(1, 10)");
+        y.does(7, "box(0)");
+        y.does("day(1)");
+        y.gives(2, "inspect(0, 7)");
+        y.gives(18, "inspect(1, 10)");
+    }
+
+    static void promise27_day_layingNotIntoABoxThatLeft(Run y) {
+        y.does("hive(0); hive(0); box(0); box(0); frame(6, 2); frame(18, 9); thing(0); slot(0, 0); stack(0, 1); day(1)");
+        y.gives(2, "inspect(0, 7)");
+        y.gives(9, "inspect(1, 10)");
+        y.gives(0, "inspect(1, 7)");
+    }
+
     // ---- EATING
 
     static void promise27_day_eatingForEach100InHunger(Run y) {
@@ -658,6 +672,20 @@ public final class DayEdgesTest {
         y.does("hive(100); hive(0); box(0); box(1); frame(0, 1); frame(96, 1); bring(0, 50); bring(1, 50); out(0); day(1)");
         y.gives(100, "honey(0)");
         after(y, 0, 0, 0);
+    }
+
+    static void promise27_day_aBoxThatLeftDoesNotFeed(Run y) {
+        y.does("hive(100); hive(0); box(0); box(0); frame(12, 1); bring(0, 50); stack(0, 1); day(1)");
+        y.gives(50, "honey(0)");
+        after(y, 0, 0, 0);
+    }
+
+    static void promise27_day_youngInABoxThatLeftGrowOnceADay(Run y) {
+        y.does("hive(0); hive(0); box(0); box(0); frame(12, 1); put(12, 0, 300); stack(0, 1); day(20)");
+        y.gives(320, "field(96, 0)");
+        y.does("day(1)");
+        y.gives(0, "inspect(0, 0)");
+        y.gives(1, "inspect(1, 0)");
     }
 
     /** A FIELD that is eaten EMPTY is laid into on the next day. */

@@ -7,11 +7,6 @@ public final class HoneyEdgesTest {
         Edges.run(HoneyEdgesTest.class);
     }
 
-    /** Two HIVES, the first with one BOX, the other with none: what refusesPlaces() asks for. */
-    private static void smallYard(Run y) {
-        y.does("hive(100); hive(100); box(0)");
-    }
-
     private static void sumHolds(Run y) {
         int sum = 0;
         for (int what = 0; what <= 3; what++) {
@@ -117,6 +112,13 @@ public final class HoneyEdgesTest {
         y.gives(0, "field(192, 0)");
     }
 
+    static void promise11_bring_noRoomInABoxThatLeft(Run y) {
+        y.does("hive(0); hive(0); box(0); box(0); frame(12, 3); stack(0, 1)");
+        y.gives(0, "bring(0, 5)");
+        y.gives(5, "bring(1, 5)");
+        y.gives(5, "field(96, 0)");
+    }
+
     static void promise11_bring_boxesPlacesFieldsFrom0On(Run y) {
         y.does("hive(0); box(0); box(0); frame(12, 1); frame(11, 2); frame(0, 1)");
         y.gives(150, "bring(0, 150)");
@@ -149,7 +151,7 @@ public final class HoneyEdgesTest {
     // ---- 12 harvest
 
     static void promise12_harvest_places(Run y) {
-        smallYard(y);
+        Yards.small(y);
         y.refusesPlaces("harvest(#)");
         y.refuses(1, "harvest(0)");
         y.does("frame(0, 1); frame(11, 1); bring(0, 150)");
@@ -158,8 +160,7 @@ public final class HoneyEdgesTest {
     }
 
     static void promise12_harvest_lastPlace(Run y) {
-        y.does(40, "hive(0)");
-        y.does(8, "box(39)");
+        Yards.lastPlaces(y);
         y.does("frame(3839, 1); bring(39, 60)");
         y.refuses(2, "harvest(3840)");
         y.gives(60, "harvest(3839)");
@@ -234,7 +235,7 @@ public final class HoneyEdgesTest {
     }
 
     static void promise12_harvest_frameAheadOf200(Run y) {
-        smallYard(y);
+        Yards.small(y);
         y.does("frame(0, 1)");
         y.does(200, "harvest(0)");
         y.refuses(2, "harvest(-1)");

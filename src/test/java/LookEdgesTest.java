@@ -7,17 +7,6 @@ public final class LookEdgesTest {
         Edges.run(LookEdgesTest.class);
     }
 
-    /** Two HIVES, the first with one BOX, the other with none: what refusesPlaces() asks for. */
-    private static void smallYard(Run y) {
-        y.does("hive(100); hive(100); box(0)");
-    }
-
-    private static void frames(Run y, int first, int count, int fields) {
-        for (int i = 0; i < count; i++) {
-            y.does("frame(" + (first + i) + ", " + fields + ")");
-        }
-    }
-
     private static void letters(Run y, String due) {
         for (int i = 0; i < due.length(); i++) {
             y.gives(due.charAt(i), "letter(" + i + ")");
@@ -67,7 +56,7 @@ public final class LookEdgesTest {
         y.gives(0, "inspect(0, 5)");
         y.does("box(0)");
         y.gives(12, "inspect(0, 5)");
-        frames(y, 0, 11, 0);
+        Yards.frames(y, 0, 11, 0);
         y.gives(1, "inspect(0, 5)");
         y.does("frame(11, 0)");
         y.gives(0, "inspect(0, 5)");
@@ -91,6 +80,17 @@ public final class LookEdgesTest {
         for (int what = 6; what <= 11; what++) {
             y.gives(0, "inspect(0, " + what + ")");
             y.gives(what == 10 ? 4 : 0, "inspect(1, " + what + ")");
+        }
+    }
+
+    static void promise39_inspect_notOfABoxThatLeft(Run y) {
+        y.does("hive(0); hive(0); box(0); frame(0, 4); put(0, 0, 200); put(0, 1, 300); bring(0, 30); stack(0, 1)");
+        for (int what = 5; what <= 11; what++) {
+            y.gives(0, "inspect(0, " + what + ")");
+        }
+        int[] due = {11, 30, 1, 0, 0, 1, 1};
+        for (int what = 5; what <= 11; what++) {
+            y.gives(due[what - 5], "inspect(1, " + what + ")");
         }
     }
 
@@ -121,7 +121,7 @@ public final class LookEdgesTest {
 
     static void promise40_gap_theLeast(Run y) {
         y.does("hive(0); hive(0); box(1); box(1)");
-        frames(y, 96, 23, 0);
+        Yards.frames(y, 96, 23, 0);
         y.gives(96 + 23, "gap(1)");
         y.does("frame(119, 0)");
         y.gives(-1, "gap(1)");
@@ -133,11 +133,16 @@ public final class LookEdgesTest {
         y.gives(96, "gap(1)");
     }
 
+    static void promise40_gap_notInABoxThatLeft(Run y) {
+        y.does("hive(0); hive(0); box(0); stack(0, 1)");
+        y.gives(-1, "gap(0)");
+        y.gives(96, "gap(1)");
+    }
+
     static void promise40_gap_noneIn8FullBoxes(Run y) {
-        y.does(40, "hive(0)");
-        y.does(8, "box(39)");
+        Yards.lastPlaces(y);
         y.gives(3744, "gap(39)");
-        frames(y, 3744, 95, 0);
+        Yards.frames(y, 3744, 95, 0);
         y.gives(3839, "gap(39)");
         y.does("frame(3839, 0)");
         y.gives(-1, "gap(39)");
@@ -146,8 +151,7 @@ public final class LookEdgesTest {
     // ---- 41 find
 
     static void promise41_find_from0To3839(Run y) {
-        y.does(40, "hive(0)");
-        y.does(8, "box(39)");
+        Yards.lastPlaces(y);
         y.does("box(0); frame(0, 1); frame(3839, 1)");
         y.refuses(2, "find(0, MIN)");
         y.refuses(2, "find(0, -1)");
@@ -206,6 +210,14 @@ public final class LookEdgesTest {
         y.gives(0, "find(200, 0)");
     }
 
+    static void promise41_find_notInABoxThatLeft(Run y) {
+        y.does("hive(0); hive(0); hive(0); box(0); frame(5, 1); split(0, 0, 1)");
+        y.gives(101, "find(0, 0)");
+        y.does("join(2, 1)");
+        y.gives(197, "find(0, 0)");
+        y.gives(-1, "find(0, 198)");
+    }
+
     static void promise41_find_notOnTheBench(Run y) {
         y.does("hive(0); box(0); frame(0, 1); out(0)");
         y.gives(-1, "find(0, 0)");
@@ -216,12 +228,21 @@ public final class LookEdgesTest {
     // ---- 42 export
 
     static void promise42_export_places(Run y) {
-        smallYard(y);
+        Yards.small(y);
         y.does("frame(0, 2); frame(11, 1)");
         y.refusesPlaces("export(#)");
         y.refuses(1, "export(1)");
         y.gives(2, "export(0)");
         y.gives(1, "export(11)");
+    }
+
+    static void promise42_export_lastPlace(Run y) {
+        Yards.lastPlaces(y);
+        y.does("frame(3839, 2); put(3839, 1, 300)");
+        y.gives(2, "export(3839)");
+        letters(y, ".e");
+        y.refuses(1, "export(3838)");
+        y.refuses(2, "export(3840)");
     }
 
     static void promise42_export_0To64Letters(Run y) {
@@ -282,7 +303,7 @@ public final class LookEdgesTest {
         y.refuses(1, "letter(0)");
         y.refuses(1, "letter(-1)");
         y.refuses(1, "letter(64)");
-        smallYard(y);
+        Yards.small(y);
         y.refuses(1, "export(0)");
         y.refuses(1, "letter(0)");
         y.does("frame(0, 0); export(0)");
@@ -464,6 +485,18 @@ public final class LookEdgesTest {
             6, 0, 0, 0, 0, 2, 0, 0, 0, 0, 0, 0, 0, 0, 0, 0, 4), "digest()");
     }
 
+    static void promise47_digest_ofDrones(Run y) {
+        y.does("hive(0); box(0); frame(0, 1); put(0, 0, 400); day(24)");
+        y.tells(digestOf(
+            1, 0, 1, 1, 1, 0, 0,
+            1, 1, 0,
+            0,
+            24,
+            0, 0, 0, 0, 0,
+            0,
+            0, 0, 0, 0, 0, 0, 0, 0, 0, 0, 0, 0, 0, 0, 0, 0, 0), "digest()");
+    }
+
     static void promise47_digest_afterUndo(Run y) {
         y.does("hive(0); thing(3); day(1); undo()");
         y.tells(digestOf(
@@ -597,7 +630,7 @@ public final class LookEdgesTest {
         for (int h = 0; h < 3; h++) {
             y.does(8, "box(" + h + ")");
         }
-        frames(y, 0, 200, 64);
+        Yards.frames(y, 0, 200, 64);
         y.does(200, "thing(2)");
         y.does("bring(0, 10000); bring(1, 10000); slot(0, 199); lay(199, 200)");
         y.does(25, "day(30)");

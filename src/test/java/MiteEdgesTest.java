@@ -206,6 +206,13 @@ public final class MiteEdgesTest {
         y.gives(0, "mites(1, 0)");
     }
 
+    static void promise33_mites_hiveNumber39(Run y) {
+        y.does(40, "hive(0)");
+        y.does("sample(39, 4, 6)");
+        y.gives(2, "mites(39, 2)");
+        y.refusesHives("mites(#, 2)", 40);
+    }
+
     static void promise33_mites_what0To3(Run y) {
         y.does("hive(0); sample(0, 6, 4)");
         y.refuses(6, "mites(0, MIN)");
@@ -260,6 +267,14 @@ public final class MiteEdgesTest {
         y.refusesHives("compare(#, 0)", 2);
         y.refusesHives("compare(0, #)", 2);
         y.gives(1, "compare(0, 1)");
+    }
+
+    static void promise34_compare_hiveNumber39(Run y) {
+        y.does(40, "hive(0)");
+        y.does("sample(39, 1, 1); sample(0, 1, 2)");
+        y.gives(2, "compare(39, 0)");
+        y.gives(0, "compare(0, 39)");
+        y.refusesHives("compare(39, #)", 40);
     }
 
     static void promise34_compare_lessLikeGreater(Run y) {
@@ -363,6 +378,14 @@ public final class MiteEdgesTest {
         y.refusesHives("due(#, 1, 1)", 2);
         y.refusesHives("due(#, 0, 0)", 2);
         y.gives(1, "due(1, 1, 1)");
+    }
+
+    static void promise36_due_hiveNumber39(Run y) {
+        y.does(39, "hive(0)");
+        y.refuses(1, "due(39, 1, 1)");
+        y.does("hive(0)");
+        y.gives(1, "due(39, 1, 1)");
+        y.refusesHives("due(#, 1, 1)", 40);
     }
 
     static void promise36_due_days1To30(Run y) {

@@ -17,18 +17,12 @@ public final class MoveEdgesTest {
         }
     }
 
-    private static void frames(Run y, int first, int count, int fields) {
-        for (int i = 0; i < count; i++) {
-            y.does("frame(" + (first + i) + ", " + fields + ")");
-        }
-    }
-
     // ---- 15 move
 
     static void promise15_move_count0To12(Run y) {
         hivesWithBoxes(y, 1, 1);
-        frames(y, 0, 12, 1);
-        frames(y, 96, 12, 1);
+        Yards.frames(y, 0, 12, 1);
+        Yards.frames(y, 96, 12, 1);
         y.does("put(0, 0, 200); put(11, 0, 200)");
         y.refuses(5, "move(0, 96, MIN)");
         y.refuses(5, "move(0, 96, -1)");
@@ -158,7 +152,7 @@ public final class MoveEdgesTest {
 
     static void promise15_move_oneAfterTheOther(Run y) {
         hivesWithBoxes(y, 1);
-        frames(y, 0, 4, 1);
+        Yards.frames(y, 0, 4, 1);
         y.does("put(0, 0, 200); put(1, 0, 300); bring(0, 10)");
         y.gives(3, "move(0, 1, 3)");
         y.gives(200, "field(3, 0)");
@@ -175,7 +169,7 @@ public final class MoveEdgesTest {
     static void promise15_move_stopsWhereFromLeavesTheBoxes(Run y) {
         hivesWithBoxes(y, 1, 1);
         y.does("frame(10, 1); frame(11, 1); put(10, 0, 200); put(11, 0, 300)");
-        frames(y, 96, 12, 1);
+        Yards.frames(y, 96, 12, 1);
         y.stops(1, 2, 10, 96, 3);
         y.gives(200, "field(96, 0)");
         y.gives(300, "field(97, 0)");
@@ -199,8 +193,7 @@ public final class MoveEdgesTest {
     }
 
     static void promise15_move_stopsBehindPlace3839(Run y) {
-        y.does(40, "hive(0)");
-        y.does(8, "box(39)");
+        Yards.lastPlaces(y);
         y.does("box(0); frame(3838, 1); frame(3839, 1); frame(0, 1); frame(1, 1); frame(2, 1)");
         y.does("put(0, 0, 200); put(1, 0, 300); put(2, 0, 400)");
         y.stops(2, 2, 0, 3838, 12);
@@ -213,7 +206,7 @@ public final class MoveEdgesTest {
 
     static void promise15_move_stopsAtTheFirstWithoutFrame(Run y) {
         hivesWithBoxes(y, 1, 1);
-        frames(y, 0, 3, 1);
+        Yards.frames(y, 0, 3, 1);
         y.does("frame(96, 1); frame(98, 1); put(0, 0, 200); put(1, 0, 200); put(2, 0, 200)");
         y.stops(1, 1, 0, 96, 3);
         y.gives(2, "inspect(0, 11)");
@@ -225,7 +218,7 @@ public final class MoveEdgesTest {
 
     static void promise15_move_stopsAtTheFirstWithLessFields(Run y) {
         hivesWithBoxes(y, 1, 1);
-        frames(y, 0, 3, 4);
+        Yards.frames(y, 0, 3, 4);
         y.does("frame(96, 4); frame(97, 4); frame(98, 3); put(2, 0, 200); bring(1, 250)");
         y.stops(2, 2, 0, 96, 3);
         y.gives(200, "field(2, 0)");
@@ -234,8 +227,8 @@ public final class MoveEdgesTest {
 
     static void promise15_move_isAChangeIfAnyCame(Run y) {
         hivesWithBoxes(y, 1, 1);
-        frames(y, 0, 3, 2);
-        frames(y, 96, 2, 2);
+        Yards.frames(y, 0, 3, 2);
+        Yards.frames(y, 96, 2, 2);
         y.does("bring(0, 250); bring(1, 330); put(0, 1, 300)");
         y.takesBack("move(0, 96, 1)");
         y.takesBack("move(0, 96, 2)");
@@ -267,8 +260,8 @@ public final class MoveEdgesTest {
 
     static void promise16_moved_ofTheLatestFrom0To12(Run y) {
         hivesWithBoxes(y, 1, 1);
-        frames(y, 0, 12, 1);
-        frames(y, 96, 12, 1);
+        Yards.frames(y, 0, 12, 1);
+        Yards.frames(y, 96, 12, 1);
         y.does("move(0, 96, 12)");
         y.tells(12, "moved()");
         y.refuses(6, "move(0, 96, 13)");
@@ -283,8 +276,8 @@ public final class MoveEdgesTest {
 
     static void promise16_moved_ofOneThatStopped(Run y) {
         hivesWithBoxes(y, 1, 1);
-        frames(y, 0, 3, 1);
-        frames(y, 96, 2, 1);
+        Yards.frames(y, 0, 3, 1);
+        Yards.frames(y, 96, 2, 1);
         y.stops(1, 2, 0, 96, 12);
         y.tells(2, "moved()");
         y.stops(1, 0, 3, 96, 1);

@@ -9,11 +9,6 @@ public final class ThingEdgesTest {
         Edges.run(ThingEdgesTest.class);
     }
 
-    /** THINGS 0 to 5, each of the KIND that is its number, and a HIVE. */
-    private static void oneOfEach(Run y) {
-        y.does("thing(0); thing(1); thing(2); thing(3); hive(60); swarm(0, 4); swarm(0, 5)");
-    }
-
     /** THINGS 0 to 'deepest', Queens all, each the mother of the next. */
     private static void lineDownTo(Run y, int deepest) {
         y.does(deepest + 1, "thing(0)");
@@ -86,7 +81,7 @@ public final class ThingEdgesTest {
     // ---- 21 line
 
     static void promise21_line_things(Run y) {
-        oneOfEach(y);
+        Yards.oneOfEachKind(y, 60);
         y.refusesThings("line(#, -1, -1)", 6);
         y.refuses(2, "line(-1, -1, -1)");
         for (int t = 0; t < 6; t++) {
@@ -95,7 +90,7 @@ public final class ThingEdgesTest {
     }
 
     static void promise21_line_mothers(Run y) {
-        oneOfEach(y);
+        Yards.oneOfEachKind(y, 60);
         y.does("thing(0)");
         y.refusesThings("line(6, #, -1)", 7);
         for (int t = 0; t <= 2; t++) {
@@ -110,7 +105,7 @@ public final class ThingEdgesTest {
     }
 
     static void promise21_line_fathers(Run y) {
-        oneOfEach(y);
+        Yards.oneOfEachKind(y, 60);
         y.does("thing(0)");
         y.refusesThings("line(6, -1, #)", 7);
         for (int t : new int[] {0, 1, 2, 4, 5}) {
@@ -174,6 +169,43 @@ public final class ThingEdgesTest {
         y.refuses(7, "line(14, 15, -1)");
         y.gives(0, "line(15, -1, -1)");
         y.gives(1, "line(15, 0, -1)");
+    }
+
+    /** The same with each mother made behind her daughter: 15 is the first, 0 the deepest. */
+    static void promise21_line_ringWhereParentsHaveGreaterNumbers(Run y) {
+        y.does(17, "thing(0)");
+        for (int t = 14; t >= 0; t--) {
+            y.gives(15 - t, "line(" + t + ", " + (t + 1) + ", -1)");
+        }
+        for (int t = 0; t <= 15; t++) {
+            y.refuses(7, "line(15, " + t + ", -1)");
+        }
+        y.refuses(6, "line(15, 16, -1)");
+        y.gives(0, "line(0, -1, -1)");
+        y.gives(1, "line(15, 16, -1)");
+        y.gives(15, "ask(1, 10)");
+        y.gives(0, "ask(0, 10)");
+    }
+
+    static void promise21_line_depthsAreThoseThatStandBehindARefusedOne(Run y) {
+        lineDownTo(y, 15);
+        y.does("thing(0); thing(0)");
+        y.refuses(6, "line(0, 16, -1)");
+        y.gives(4, "line(17, 3, -1)");
+        y.refuses(6, "line(0, 16, -1)");
+        y.gives(1, "line(16, 0, -1)");
+        y.gives(15, "ask(15, 10)");
+    }
+
+    static void promise21_line_depthsAreThoseThatStandBehindOneTakenBack(Run y) {
+        y.does(4, "thing(0)");
+        y.gives(1, "line(0, 3, -1)");
+        y.does("undo()");
+        y.gives(1, "line(1, 0, -1)");
+        y.gives(0, "ask(0, 10)");
+        y.gives(1, "line(2, 3, -1)");
+        y.gives(2, "line(0, 2, -1)");
+        y.gives(3, "ask(1, 10)");
     }
 
     static void promise21_line_depth15ButNot16(Run y) {
@@ -285,7 +317,7 @@ public final class ThingEdgesTest {
     }
 
     static void promise22_kin_wholeOfTheSame(Run y) {
-        oneOfEach(y);
+        Yards.oneOfEachKind(y, 60);
         y.does("line(0, 1, 3)");
         for (int t = 0; t < 6; t++) {
             y.gives(WHOLE, "kin(" + t + ", " + t + ")");
@@ -385,6 +417,45 @@ public final class ThingEdgesTest {
         y.gives(WHOLE / 4, "kin(198, 199)");
     }
 
+    /** All 200 are one family: each Queen has a MOTHER and a FATHER, each Drone a MOTHER, as long as there are THINGS. */
+    static void promise22_kin_ofAFamilyOf200(Run y) {
+        int[] generation = new int[200];
+        boolean[] drone = new boolean[200];
+        y.does("thing(0)");
+        int made = 1;
+        for (int t = 0; made < 200; t++) {
+            int mother = made;
+            int father = drone[t] || mother + 1 == 200 ? -1 : mother + 1;
+            y.does("thing(0)");
+            generation[mother] = generation[t] + 1;
+            if (father != -1) {
+                y.does("thing(3)");
+                drone[father] = true;
+                generation[father] = generation[t] + 1;
+            }
+            made = father == -1 ? mother + 1 : father + 1;
+            y.does("line(" + t + ", " + mother + ", " + father + ")");
+        }
+        y.gives(generation[199], "ask(0, 10)");
+        for (int t = 0; t < 200; t += 7) {
+            y.gives(WHOLE >> generation[t], "kin(0, " + t + ")");
+        }
+        y.gives(WHOLE >> generation[199], "kin(199, 0)");
+        y.gives(0, "kin(198, 199)");
+    }
+
+    static void promise22_kin_asOftenAsOneAsks(Run y) {
+        y.does("thing(0); thing(3); thing(0); thing(0); line(2, 0, 1); line(3, 0, -1)");
+        for (int i = 0; i < 160; i++) {
+            y.hold("kin(2, 3)", y.answer("kin(2, 3)"), WHOLE / 4);
+            y.hold("kin(3, 1)", y.answer("kin(3, 1)"), 0);
+            y.hold("kin(0, 2)", y.answer("kin(0, 2)"), WHOLE / 2);
+        }
+        y.does("thing(0); line(4, 3, -1)");
+        y.gives(WHOLE / 2, "kin(4, 3)");
+        y.gives(WHOLE / 4, "kin(0, 4)");
+    }
+
     // ---- 23 ask
 
     static void promise23_ask_things(Run y) {
@@ -417,7 +488,7 @@ public final class ThingEdgesTest {
     }
 
     static void promise23_ask_laysOfQueensAlone(Run y) {
-        oneOfEach(y);
+        Yards.oneOfEachKind(y, 60);
         for (int t = 0; t <= 2; t++) {
             y.gives(t == 1 ? 0 : 5, "ask(" + t + ", 4)");
             y.gives(t == 1 ? 0 : 1, "ask(" + t + ", 7)");
@@ -429,7 +500,7 @@ public final class ThingEdgesTest {
     }
 
     static void promise23_ask_rateAndSireOfMatedAlone(Run y) {
-        oneOfEach(y);
+        Yards.oneOfEachKind(y, 60);
         y.gives(0, "ask(2, 11)");
         y.gives(-1, "ask(2, 12)");
         for (int t : new int[] {0, 1, 3, 4, 5}) {
@@ -439,7 +510,7 @@ public final class ThingEdgesTest {
     }
 
     static void promise23_ask_theRestOfAllKinds(Run y) {
-        oneOfEach(y);
+        Yards.oneOfEachKind(y, 60);
         for (int t = 0; t < 6; t++) {
             for (int what : new int[] {0, 1, 8, 9, 10, 13, 14}) {
                 y.gives(what == 0 ? t : what == 1 || what == 10 ? 0 : -1, "ask(" + t + ", " + what + ")");
@@ -450,7 +521,7 @@ public final class ThingEdgesTest {
     }
 
     static void promise23_ask_statusesInOrder(Run y) {
-        oneOfEach(y);
+        Yards.oneOfEachKind(y, 60);
         y.refuses(2, "ask(200, 15)");
         y.refuses(2, "ask(-1, -1)");
         y.refuses(1, "ask(6, 15)");
@@ -537,7 +608,7 @@ public final class ThingEdgesTest {
     }
 
     static void promise24_slot_ofAnyKind(Run y) {
-        oneOfEach(y);
+        Yards.oneOfEachKind(y, 60);
         for (int t = 0; t < 6; t++) {
             y.gives(t - 1, "slot(0, " + t + ")");
         }
@@ -564,8 +635,17 @@ public final class ThingEdgesTest {
         y.gives(0, "ask(0, 11)");
     }
 
+    static void promise25_lay_thing199(Run y) {
+        y.does(199, "thing(2)");
+        y.refuses(1, "lay(199, 5)");
+        y.does("thing(2)");
+        y.gives(0, "lay(199, 5)");
+        y.gives(5, "ask(199, 11)");
+        y.refuses(2, "lay(200, 5)");
+    }
+
     static void promise25_lay_matedAlone(Run y) {
-        oneOfEach(y);
+        Yards.oneOfEachKind(y, 60);
         for (int t : new int[] {0, 1, 3, 4, 5}) {
             y.refuses(3, "lay(" + t + ", 5)");
         }
@@ -587,7 +667,7 @@ public final class ThingEdgesTest {
     }
 
     static void promise25_lay_statusesInOrder(Run y) {
-        oneOfEach(y);
+        Yards.oneOfEachKind(y, 60);
         y.refuses(2, "lay(200, 201)");
         y.refuses(1, "lay(6, -1)");
         y.refuses(3, "lay(0, 201)");
@@ -598,7 +678,7 @@ public final class ThingEdgesTest {
     // ---- 26 mate
 
     static void promise26_mate_virgins(Run y) {
-        oneOfEach(y);
+        Yards.oneOfEachKind(y, 60);
         y.refusesThings("mate(#, 3)", 6);
         y.refuses(2, "mate(-1, 3)");
         for (int t : new int[] {0, 2, 3, 4, 5}) {
@@ -608,8 +688,24 @@ public final class ThingEdgesTest {
         y.refuses(3, "mate(1, 3)");
     }
 
+    static void promise26_mate_thing199(Run y) {
+        y.does(199, "thing(1)");
+        y.refuses(1, "mate(0, 199)");
+        y.refuses(1, "mate(199, 0)");
+        y.does("thing(3)");
+        y.gives(1, "mate(198, 199)");
+        y.gives(199, "ask(198, 12)");
+        y.refuses(2, "mate(200, 199)");
+        y.refuses(2, "mate(0, 200)");
+        y.anew();
+        y.does(199, "thing(3)");
+        y.does("thing(1)");
+        y.gives(1, "mate(199, 0)");
+        y.gives(2, "ask(199, 0)");
+    }
+
     static void promise26_mate_drones(Run y) {
-        oneOfEach(y);
+        Yards.oneOfEachKind(y, 60);
         y.refusesThings("mate(1, #)", 6);
         y.refuses(2, "mate(1, -1)");
         for (int t : new int[] {0, 1, 2, 4, 5}) {
@@ -619,7 +715,7 @@ public final class ThingEdgesTest {
     }
 
     static void promise26_mate_statusesInOrder(Run y) {
-        oneOfEach(y);
+        Yards.oneOfEachKind(y, 60);
         y.refuses(2, "mate(200, 199)");
         y.refuses(1, "mate(199, 200)");
         y.refuses(1, "mate(6, 0)");
@@ -732,7 +828,7 @@ public final class ThingEdgesTest {
     // ---- 29 settle
 
     static void promise29_settle_things(Run y) {
-        oneOfEach(y);
+        Yards.oneOfEachKind(y, 60);
         y.refusesThings("settle(#, 0)", 6);
         y.refuses(2, "settle(-1, 0)");
         for (int t = 0; t <= 3; t++) {
@@ -757,7 +853,7 @@ public final class ThingEdgesTest {
     }
 
     static void promise29_settle_statusesInOrder(Run y) {
-        oneOfEach(y);
+        Yards.oneOfEachKind(y, 60);
         y.refuses(2, "settle(200, 39)");
         y.refuses(1, "settle(199, 40)");
         y.refuses(1, "settle(6, 40)");

@@ -13,7 +13,8 @@ public final class UndoEdgesTest {
         y.does("thing(0); thing(1); thing(2); thing(3); thing(1); line(1, 0, 3); line(2, 1, -1); lay(2, 20)");
         y.does("slot(0, 2); slot(1, 1); slot(2, 0); swarm(2, 4); swarm(0, 5)");
         y.does("bring(0, 900); bring(1, 400); put(0, 7, 300); put(96, 8, 400); put(13, 63, 200); out(97); day(5)");
-        y.does("harvest(0); bring(0, 50); sample(0, 3, 40); sample(1, 5, 60); due(0, 4, 5); due(1, 6, 7)");
+        y.does("harvest(0); bring(0, 50); harvest(96); bring(1, 60); harvest(13); undo(); harvest(13)");
+        y.does("thing(1); mate(7, 3); lay(7, 33); line(7, 0, 3); sample(0, 3, 40); sample(1, 5, 60); due(0, 4, 5); due(1, 6, 7)");
         y.does("export(13); share(0, 7); plan(1, 2); move(96, 13, 1); bring(1, 333); day(20)");
     }
 

@@ -7,23 +7,6 @@ public final class YardEdgesTest {
         Edges.run(YardEdgesTest.class);
     }
 
-    /** Two HIVES, the first with one BOX, the other with none: what refusesPlaces() asks for. */
-    private static void smallYard(Run y) {
-        y.does("hive(100); hive(100); box(0)");
-    }
-
-    /** The last PLACES of all are there: HIVE 39 has 8 BOXES. */
-    private static void lastPlaces(Run y) {
-        y.does(40, "hive(0)");
-        y.does(8, "box(39)");
-    }
-
-    private static void frames(Run y, int first, int count, int fields) {
-        for (int i = 0; i < count; i++) {
-            y.does("frame(" + (first + i) + ", " + fields + ")");
-        }
-    }
-
     // ---- terms, section 1
 
     static void terms_aBoxHasTwelvePlaces(Run y) {
@@ -61,7 +44,7 @@ public final class YardEdgesTest {
     }
 
     static void terms_placesFrom0To3839(Run y) {
-        lastPlaces(y);
+        Yards.lastPlaces(y);
         y.does("box(0)");
         y.refuses(2, "frame(-1, 1)");
         y.gives(0, "frame(0, 1)");
@@ -285,7 +268,7 @@ public final class YardEdgesTest {
         for (int p = 0; p < 12; p++) {
             y.refuses(1, "at(" + p + ")");
         }
-        frames(y, 0, 12, 1);
+        Yards.frames(y, 0, 12, 1);
         y.does("stack(0, 1)");
         y.gives(0, "box(0)");
         y.gives(12, "inspect(0, 5)");
@@ -298,14 +281,14 @@ public final class YardEdgesTest {
     // ---- 4 frame
 
     static void promise4_frame_places(Run y) {
-        smallYard(y);
+        Yards.small(y);
         y.refusesPlaces("frame(#, 5)");
         y.gives(0, "frame(0, 5)");
         y.gives(1, "frame(11, 5)");
     }
 
     static void promise4_frame_lastPlace(Run y) {
-        lastPlaces(y);
+        Yards.lastPlaces(y);
         y.gives(0, "frame(3839, 5)");
         y.refuses(1, "frame(3743, 5)");
         y.gives(1, "frame(3744, 5)");
@@ -352,7 +335,7 @@ public final class YardEdgesTest {
         for (int h = 0; h < 3; h++) {
             y.does(8, "box(" + h + ")");
         }
-        frames(y, 0, 199, 1);
+        Yards.frames(y, 0, 199, 1);
         y.gives(199, "frame(199, 1)");
         y.refuses(6, "frame(200, 1)");
         y.gives(199, "at(199)");
@@ -370,7 +353,7 @@ public final class YardEdgesTest {
     }
 
     static void promise4_frame_placeAheadOf6And5(Run y) {
-        smallYard(y);
+        Yards.small(y);
         y.refuses(2, "frame(-1, 65)");
         y.refuses(2, "frame(3840, 65)");
         y.refuses(2, "frame(3840, -1)");
@@ -390,7 +373,7 @@ public final class YardEdgesTest {
         for (int h = 0; h < 3; h++) {
             y.does(8, "box(" + h + ")");
         }
-        frames(y, 0, 199, 0);
+        Yards.frames(y, 0, 199, 0);
         y.refuses(5, "frame(199, -1)");
         y.does("frame(199, 0)");
         y.refuses(6, "frame(200, -1)");
@@ -401,7 +384,7 @@ public final class YardEdgesTest {
     // ---- 5 out
 
     static void promise5_out_places(Run y) {
-        smallYard(y);
+        Yards.small(y);
         y.refusesPlaces("out(#)");
         y.refuses(1, "out(0)");
         y.does("frame(0, 1); frame(11, 1)");
@@ -411,7 +394,7 @@ public final class YardEdgesTest {
     }
 
     static void promise5_out_lastPlace(Run y) {
-        lastPlaces(y);
+        Yards.lastPlaces(y);
         y.does("frame(3839, 1)");
         y.refuses(2, "out(3840)");
         y.refuses(1, "out(3838)");
@@ -420,7 +403,7 @@ public final class YardEdgesTest {
 
     static void promise5_out_benchHas24Places(Run y) {
         y.does("hive(0); box(0); box(0); box(0)");
-        frames(y, 0, 25, 1);
+        Yards.frames(y, 0, 25, 1);
         for (int k = 0; k < 24; k++) {
             y.gives(k, "out(" + k + ")");
         }
@@ -432,7 +415,7 @@ public final class YardEdgesTest {
 
     static void promise5_out_leastFreePlace(Run y) {
         y.does("hive(0); box(0)");
-        frames(y, 0, 6, 1);
+        Yards.frames(y, 0, 6, 1);
         y.does("out(0); out(1); out(2); out(3)");
         y.does("back(2, 6); back(0, 7)");
         y.gives(0, "out(4)");
@@ -451,9 +434,9 @@ public final class YardEdgesTest {
     }
 
     static void promise5_out_frameAheadOfNoRoom(Run y) {
-        smallYard(y);
+        Yards.small(y);
         y.does("box(1); box(1)");
-        frames(y, 96, 24, 1);
+        Yards.frames(y, 96, 24, 1);
         for (int k = 0; k < 24; k++) {
             y.does("out(" + (96 + k) + ")");
         }
@@ -470,7 +453,7 @@ public final class YardEdgesTest {
 
     static void promise6_back_benchFrom0To23(Run y) {
         y.does("hive(0); box(0); box(0)");
-        frames(y, 0, 24, 1);
+        Yards.frames(y, 0, 24, 1);
         for (int k = 0; k < 24; k++) {
             y.does("out(" + k + ")");
         }
@@ -495,7 +478,7 @@ public final class YardEdgesTest {
     }
 
     static void promise6_back_places(Run y) {
-        smallYard(y);
+        Yards.small(y);
         y.does("frame(0, 1); frame(1, 2); out(0); out(1)");
         y.refusesPlaces("back(0, #)");
         y.gives(1, "back(0, 11)");
@@ -505,7 +488,7 @@ public final class YardEdgesTest {
     }
 
     static void promise6_back_lastPlace(Run y) {
-        lastPlaces(y);
+        Yards.lastPlaces(y);
         y.does("frame(3744, 1); out(3744)");
         y.refuses(2, "back(0, 3840)");
         y.gives(1, "back(0, 3839)");
@@ -521,7 +504,7 @@ public final class YardEdgesTest {
     }
 
     static void promise6_back_statusesInOrder(Run y) {
-        smallYard(y);
+        Yards.small(y);
         y.does("frame(0, 1); frame(1, 2); out(0)");
         y.refuses(2, "back(24, 12)");
         y.refuses(2, "back(-1, 1)");
@@ -536,7 +519,7 @@ public final class YardEdgesTest {
     // ---- 7 at
 
     static void promise7_at_places(Run y) {
-        smallYard(y);
+        Yards.small(y);
         y.refusesPlaces("at(#)");
         y.refuses(1, "at(0)");
         y.does("frame(11, 1); frame(0, 1)");
@@ -546,7 +529,7 @@ public final class YardEdgesTest {
     }
 
     static void promise7_at_lastPlace(Run y) {
-        lastPlaces(y);
+        Yards.lastPlaces(y);
         y.refuses(1, "at(3839)");
         y.does("frame(3839, 1)");
         y.gives(0, "at(3839)");
@@ -558,7 +541,7 @@ public final class YardEdgesTest {
         for (int h = 0; h < 3; h++) {
             y.does(8, "box(" + h + ")");
         }
-        frames(y, 0, 200, 0);
+        Yards.frames(y, 0, 200, 0);
         y.gives(0, "at(0)");
         y.gives(199, "at(199)");
         y.refuses(1, "at(200)");
@@ -584,7 +567,7 @@ public final class YardEdgesTest {
         for (int h = 0; h < 3; h++) {
             y.does(8, "box(" + h + ")");
         }
-        frames(y, 1, 199, 0);
+        Yards.frames(y, 1, 199, 0);
         y.refuses(1, "where(199)");
         y.does("frame(287, 0)");
         y.gives(287, "where(199)");
@@ -593,7 +576,7 @@ public final class YardEdgesTest {
 
     static void promise8_where_benchPlaces0And23(Run y) {
         y.does("hive(0); box(0); box(0)");
-        frames(y, 0, 24, 1);
+        Yards.frames(y, 0, 24, 1);
         for (int k = 0; k < 24; k++) {
             y.does("out(" + (23 - k) + ")");
         }
@@ -604,20 +587,37 @@ public final class YardEdgesTest {
     }
 
     static void promise8_where_places0And3839(Run y) {
-        lastPlaces(y);
+        Yards.lastPlaces(y);
         y.does("box(0); frame(3839, 1); frame(0, 1)");
         y.gives(3839, "where(0)");
         y.gives(0, "where(1)");
     }
 
+    static void promise8_where_ofABoxThatLeft(Run y) {
+        y.does("hive(0); hive(0); hive(0); box(1); frame(101, 1); stack(1, 0)");
+        y.gives(5, "where(0)");
+        y.does("split(0, 0, 2)");
+        y.gives(197, "where(0)");
+        y.does("join(1, 2)");
+        y.gives(101, "where(0)");
+    }
+
     // ---- 9 field
 
     static void promise9_field_places(Run y) {
-        smallYard(y);
+        Yards.small(y);
         y.does("frame(0, 1)");
         y.refusesPlaces("field(#, 0)");
         y.refuses(1, "field(1, 0)");
         y.gives(0, "field(0, 0)");
+    }
+
+    static void promise9_field_lastPlace(Run y) {
+        Yards.lastPlaces(y);
+        y.does("frame(3839, 2)");
+        y.gives(0, "field(3839, 1)");
+        y.refuses(1, "field(3838, 1)");
+        y.refuses(2, "field(3840, 1)");
     }
 
     static void promise9_field_numbers(Run y) {
@@ -644,7 +644,7 @@ public final class YardEdgesTest {
     }
 
     static void promise9_field_frameAheadOfNumber(Run y) {
-        smallYard(y);
+        Yards.small(y);
         y.refuses(1, "field(0, -1)");
         y.refuses(1, "field(12, 64)");
         y.refuses(1, "field(192, 64)");
@@ -653,11 +653,20 @@ public final class YardEdgesTest {
     // ---- 10 put
 
     static void promise10_put_places(Run y) {
-        smallYard(y);
+        Yards.small(y);
         y.does("frame(0, 1)");
         y.refusesPlaces("put(#, 0, 200)");
         y.refuses(1, "put(1, 0, 200)");
         y.gives(0, "put(0, 0, 200)");
+    }
+
+    static void promise10_put_lastPlace(Run y) {
+        Yards.lastPlaces(y);
+        y.does("frame(3839, 2)");
+        y.gives(0, "put(3839, 1, 300)");
+        y.gives(300, "field(3839, 1)");
+        y.refuses(1, "put(3838, 1, 300)");
+        y.refuses(2, "put(3840, 1, 300)");
     }
 
     static void promise10_put_numbers(Run y) {
@@ -707,7 +716,7 @@ public final class YardEdgesTest {
     }
 
     static void promise10_put_statusesInOrder(Run y) {
-        smallYard(y);
+        Yards.small(y);
         y.does("frame(0, 1)");
         y.refuses(2, "put(-1, 0, 7)");
         y.refuses(1, "put(12, -1, 0)");
