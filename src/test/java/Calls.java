@@ -1,5 +1,6 @@
 import java.lang.reflect.InvocationTargetException;
 import java.lang.reflect.Method;
+import java.util.Arrays;
 import java.util.HashMap;
 import java.util.Map;
 
@@ -20,19 +21,22 @@ final class Calls {
 
     static int make(BeeYard yard, String call) {
         int open = call.indexOf('(');
-        Method method = METHODS.get(call.substring(0, open));
         String inside = call.substring(open + 1, call.length() - 1).trim();
         String[] words = inside.isEmpty() ? new String[0] : inside.split(",");
-        Object[] numbers = new Object[words.length];
+        int[] numbers = new int[words.length];
         for (int i = 0; i < words.length; i++) {
             numbers[i] = number(words[i].trim());
         }
+        return make(yard, call.substring(0, open), numbers);
+    }
+
+    static int make(BeeYard yard, String name, int[] numbers) {
         try {
-            return (Integer) method.invoke(yard, numbers);
+            return (Integer) METHODS.get(name).invoke(yard, Arrays.stream(numbers).boxed().toArray());
         } catch (InvocationTargetException e) {
-            throw new IllegalStateException(call + " threw", e.getCause());
+            throw new IllegalStateException(name + Arrays.toString(numbers) + " threw", e.getCause());
         } catch (IllegalAccessException e) {
-            throw new IllegalStateException(call + " is not public", e);
+            throw new IllegalStateException(name + " is not public", e);
         }
     }
 

@@ -54,14 +54,10 @@ public final class FaceTest {
     }
 
     private static void hiddenMembers() {
-        TreeSet<String> names = new TreeSet<>();
-        for (String call : FACE) {
-            names.add(call.substring(0, call.indexOf('(')));
-        }
         for (Method method : BeeYard.class.getDeclaredMethods()) {
             if (!Modifier.isPublic(method.getModifiers())) {
                 c.is(method + " is private", Modifier.isPrivate(method.getModifiers()) ? 1 : 0, 1);
-                c.is(method + " bears a public one's name", names.contains(method.getName()) ? 1 : 0, 0);
+                isPlainMethod(method);
             }
         }
         for (Field field : BeeYard.class.getDeclaredFields()) {
@@ -78,8 +74,18 @@ public final class FaceTest {
             c.is(type + " is public", Modifier.isPublic(type.getModifiers()) ? 1 : 0, 0);
             long fields = Arrays.stream(type.getDeclaredFields()).filter(f -> !Modifier.isStatic(f.getModifiers())).count();
             c.is(type + " has twenty fields at most", fields <= 20 ? 1 : 0, 1);
+            for (Method method : type.getDeclaredMethods()) {
+                isPlainMethod(method);
+            }
             staticFieldsAreFinal(type);
         }
+    }
+
+    private static void isPlainMethod(Method method) {
+        for (String call : FACE) {
+            c.is(method + " bears a public one's name", call.startsWith(method.getName() + "(") ? 1 : 0, 0);
+        }
+        c.is(method + " takes seven parameters at most", method.getParameterCount() <= 7 ? 1 : 0, 1);
     }
 
     private static void staticFieldsAreFinal(Class<?> type) {

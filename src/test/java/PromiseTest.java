@@ -1005,8 +1005,18 @@ public final class PromiseTest {
         c.is("digest() after a call that runs no BODY", x.digest(), before);
     }
 
-    /** What the ACTS of each KIND answer, and which BODIES they run. */
+    /** What the ACTS of each KIND answer, and which BODIES they run: some at a time, as each takes many calls. */
     private static void askBodies() {
+        tellsBodies(sixKinds());
+        carriesAndLaysBodies(sixKinds());
+        truthsBodies(sixKinds());
+        loadedBodies();
+        oldBodies();
+        oldMatedBodies();
+    }
+
+    /** THINGS 0 to 5, each of the KIND of its number but the last two, a Nucleus and then a Swarm, after 15 days. */
+    private static BeeYard sixKinds() {
         BeeYard x = new BeeYard();
         for (int kind = 0; kind < 4; kind++) {
             x.thing(kind);
@@ -1017,6 +1027,10 @@ public final class PromiseTest {
         x.swarm(1, 4);
         x.lay(2, 10);
         x.day(15);
+        return x;
+    }
+
+    private static void tellsBodies(BeeYard x) {
         runs(x, 0, 1, 15);
         runs(x, 1, 1, 30);
         runs(x, 0, 2, 1015, 3, 1);
@@ -1025,6 +1039,9 @@ public final class PromiseTest {
         runs(x, 3, 2, -16, 8, 1);
         runs(x, 4, 2, 5015, 11, 1);
         runs(x, 5, 2, 15, 1);
+    }
+
+    private static void carriesAndLaysBodies(BeeYard x) {
         runs(x, 0, 3, 0, 2);
         runs(x, 1, 3, 0, 2);
         runs(x, 3, 3, 0, 2);
@@ -1033,6 +1050,12 @@ public final class PromiseTest {
         runs(x, 0, 4, 5, 4);
         runs(x, 1, 4, 0, 6);
         runs(x, 2, 4, 15, 7, 4);
+        x.day(1);
+        runs(x, 1, 4, -5, 6, 4);
+        runs(x, 1, 7, 1, 13, 6, 4);
+    }
+
+    private static void truthsBodies(BeeYard x) {
         runs(x, 0, 5, 0, 14, 3, 1);
         runs(x, 3, 5, 0, 14, 8, 1);
         runs(x, 4, 5, 1, 14, 11, 1);
@@ -1043,40 +1066,48 @@ public final class PromiseTest {
         runs(x, 0, 7, 1, 13, 4);
         runs(x, 1, 7, 0, 13, 6);
         runs(x, 2, 7, 1, 13, 7, 4);
-        x.day(1);
-        runs(x, 1, 4, -5, 6, 4);
-        runs(x, 1, 7, 1, 13, 6, 4);
-        BeeYard z = new BeeYard();
-        z.hive(3);
-        z.swarm(0, 4);
-        z.swarm(0, 5);
-        runs(z, 0, 6, 1, 15, 10);
-        runs(z, 1, 6, 0, 15, 12, 10);
+    }
+
+    private static void loadedBodies() {
+        BeeYard x = new BeeYard();
+        x.hive(3);
+        x.swarm(0, 4);
+        x.swarm(0, 5);
+        runs(x, 0, 6, 1, 15, 10);
+        runs(x, 1, 6, 0, 15, 12, 10);
         BeeYard y = new BeeYard();
         y.hive(9000);
         y.swarm(0, 5);
         runs(y, 0, 3, 1000, 12, 10);
-        y.thing(2);
-        for (int i = 0; i < 4; i++) {
-            y.day(25);
-        }
-        runs(y, 1, 5, 0, 14, 3, 1);
-        runs(y, 1, 4, 4, 7, 4);
-        y.day(1);
-        runs(y, 1, 5, 1, 14, 3, 1);
-        for (int i = 0; i < 17; i++) {
-            y.day(30);
-        }
-        runs(y, 1, 4, 0, 7, 4);
-        runs(y, 1, 7, 0, 13, 7, 4);
-        for (int i = 0; i < 40; i++) {
-            y.settle(0, 0);
-        }
+        y.settle(0, 0);
         runs(y, 0, 6, 0, 15, 12, 10);
-        for (int i = 0; i < 27; i++) {
-            y.day(30);
+    }
+
+    private static void oldBodies() {
+        BeeYard x = new BeeYard();
+        x.thing(2);
+        for (int i = 0; i < 4; i++) {
+            x.day(25);
         }
-        runs(y, 1, 4, 0, 7, 4);
+        runs(x, 0, 5, 0, 14, 3, 1);
+        runs(x, 0, 4, 4, 7, 4);
+        x.day(1);
+        runs(x, 0, 5, 1, 14, 3, 1);
+    }
+
+    /** At 500 DAYS and more LAYS is 0, not less. */
+    private static void oldMatedBodies() {
+        BeeYard x = new BeeYard();
+        x.thing(2);
+        for (int i = 0; i < 20; i++) {
+            x.day(25);
+        }
+        runs(x, 0, 4, 0, 7, 4);
+        runs(x, 0, 7, 0, 13, 7, 4);
+        for (int i = 0; i < 30; i++) {
+            x.day(30);
+        }
+        runs(x, 0, 4, 0, 7, 4);
     }
 
     private static int load(int bees, int days) {
@@ -2084,11 +2115,14 @@ public final class PromiseTest {
         return x;
     }
 
+    /** Each look is at an object of its own: one look takes a good part of the 512 calls. */
     private static void undone(int[] counts, String call, java.util.function.ToIntFunction<BeeYard> change) {
+        String was = told(rich());
+        BeeYard changed = rich();
+        c.is(call + " is not refused", change.applyAsInt(changed) >= 0 || changed.status() == 0 ? 1 : 0, 1);
+        c.is(call + " changes something", told(changed).equals(was) ? 1 : 0, 0);
         BeeYard x = rich();
-        String was = told(x);
-        c.is(call + " is not refused", change.applyAsInt(x) >= 0 || x.status() == 0 ? 1 : 0, 1);
-        c.is(call + " changes something", told(x).equals(was) ? 1 : 0, 0);
+        change.applyAsInt(x);
         c.answer(x, "undo() of " + call, x.undo(), 1);
         c.is("all is as it was ahead of " + call, told(x).equals(was) ? 1 : 0, 1);
         c.answer(x, "undo() again", x.undo(), 0);
@@ -2104,16 +2138,12 @@ public final class PromiseTest {
             }
             all.append(x.mites(h, 0)).append(' ').append(x.mites(h, 1)).append(' ');
         }
-        for (int p = 0; p < 300; p++) {
-            if (x.at(p) >= 0) {
-                all.append(p).append(':').append(x.at(p)).append(' ');
-                for (int i = 0; i < 10; i++) {
-                    all.append(x.field(p, i)).append(' ');
-                }
-            }
-        }
         for (int n = 0; n < 6; n++) {
-            all.append(x.where(n)).append(' ');
+            int place = x.where(n);
+            all.append(n).append(':').append(place).append(' ').append(x.at(place)).append(' ');
+            for (int i = 0; i < 10; i++) {
+                all.append(x.field(place, i)).append(' ');
+            }
         }
         for (int t = 0; t < 7; t++) {
             for (int what : new int[] {0, 1, 3, 8, 9, 10, 11, 12, 13, 14}) {
@@ -2141,11 +2171,12 @@ public final class PromiseTest {
         c.is("status() is left by digest()", x.status(), 6);
         x.day(20);
         c.is("digest()", x.digest(), digestOf(x));
-        x.swarm(0, 5);
-        x.ask(4, 5);
-        c.is("digest()", x.digest(), digestOf(x));
-        x.undo();
-        c.is("digest()", x.digest(), digestOf(x));
+        BeeYard y = rich();
+        y.swarm(0, 5);
+        y.ask(4, 5);
+        c.is("digest()", y.digest(), digestOf(y));
+        y.undo();
+        c.is("digest()", y.digest(), digestOf(y));
     }
 
     /** From the other calls' answers, for the rich() yard. */

@@ -1,5 +1,3 @@
-import java.lang.reflect.InvocationTargetException;
-import java.lang.reflect.Method;
 import java.util.ArrayList;
 import java.util.Arrays;
 import java.util.List;
@@ -7,10 +5,16 @@ import java.util.Map;
 import java.util.Random;
 import java.util.TreeMap;
 
-/** Runs of up to 512 calls, drawn with fixed seeds, each answered as PlainYard answers it. */
+/**
+ * Runs of 512 calls, drawn with fixed seeds, each answered as PlainYard answers it. Beyond these an object's answers are
+ * free; but no call may throw, so that some runs go on.
+ */
 public final class RandomRunsTest {
-    private static final int RUNS = 600;
+    private static final int RUNS = 1200;
     private static final int CALLS = 512;
+    private static final int LOOKS = 3;
+    private static final int CALLS_OF_A_STEP = 1 + LOOKS;
+    private static final int MORE_CALLS = 3000;
 
     /** Each call with what its parameters are: see number(). */
     private static final String[] CALLS_TOLD = {
@@ -23,20 +27,24 @@ public final class RandomRunsTest {
         "undo", "digest", "status"
     };
     private static final int BUILDING = 4;
+    private static final int[] NO_NUMBERS = {};
 
     private final Random random;
     private final int width;
     private final int wildness;
+    private final boolean looksOften;
     private final List<String> drawn = new ArrayList<>();
     private final BeeYard yard = new BeeYard();
     private final PlainYard plain = new PlainYard();
     private final List<String> told = new ArrayList<>();
+    private int calls = 0;
 
     /** Each run has its own bent: some calls come often in it, some never. */
     private RandomRunsTest(long seed) {
         random = new Random(seed);
         width = 1 + random.nextInt(random.nextInt(3) > 0 ? 4 : 40);
         wildness = random.nextInt(3) == 0 ? 8 : 80;
+        looksOften = seed % 3 == 0;
         int[] weights = {0, 1, 1, 2, 8};
         for (int i = 0; i < CALLS_TOLD.length; i++) {
             int weight = weights[random.nextInt(weights.length)] + (i < BUILDING ? 3 : 0);
@@ -47,21 +55,21 @@ public final class RandomRunsTest {
     }
 
     /** Arguments: how many runs; any second one shows how often each call had each STATUS. */
-    public static void main(String[] args) throws IllegalAccessException {
+    public static void main(String[] args) {
         int runs = args.length > 0 ? Integer.parseInt(args[0]) : RUNS;
-        Map<String, Method> methods = methods();
         Map<String, int[]> tally = new TreeMap<>();
         for (int seed = 0; seed < runs; seed++) {
             RandomRunsTest run = new RandomRunsTest(seed);
-            boolean full = seed % 100 == 0;
-            if (full && !run.fills(methods) || !run.passes(methods, tally)) {
+            boolean fine = (seed % 10 != 0 || run.fills(seed / 10 % 4)) && run.passes(tally) && (seed % 20 != 0 || run.goesOn());
+            if (!fine) {
                 System.out.println("seed " + seed + ":");
                 run.told.forEach(System.out::println);
                 System.exit(1);
             }
         }
         boolean all = true;
-        for (String call : methods.keySet()) {
+        for (String told : CALLS_TOLD) {
+            String call = told.split(" ")[0];
             int[] counts = tally.getOrDefault(call, new int[9]);
             all &= counts[0] > 0;
             if (args.length > 1) {
@@ -72,70 +80,103 @@ public final class RandomRunsTest {
         System.exit(all ? 0 : 1);
     }
 
-    private static Map<String, Method> methods() {
-        Map<String, Method> all = new TreeMap<>();
-        for (Method method : BeeYard.class.getMethods()) {
-            if (method.getDeclaringClass() == BeeYard.class) {
-                all.put(method.getName(), method);
-            }
-        }
-        return all;
-    }
-
-    private boolean passes(Map<String, Method> methods, Map<String, int[]> tally) throws IllegalAccessException {
-        for (int k = 0; k < CALLS; k++) {
+    private boolean passes(Map<String, int[]> tally) {
+        for (int k = 0; calls + CALLS_OF_A_STEP + LOOKS <= CALLS; k++) {
             String[] words = draw(k).split(" ");
-            int[] numbers = new int[words.length - 1];
-            for (int i = 0; i < numbers.length; i++) {
-                numbers[i] = random.nextInt(wildness) == 0 ? wild() : number(words[i + 1]);
-            }
-            if (!step(methods, words[0], numbers)) {
+            if (!step(words[0], numbers(words))) {
                 return false;
             }
-            tally.computeIfAbsent(words[0], x -> new int[9])[yard.status()]++;
+            tally.computeIfAbsent(words[0], x -> new int[9])[plain.call("status", NO_NUMBERS)]++;
         }
-        return true;
+        return isLike();
     }
 
-    private boolean step(Map<String, Method> methods, String call, int... numbers) throws IllegalAccessException {
+    private int[] numbers(String[] words) {
+        int[] numbers = new int[words.length - 1];
+        for (int i = 0; i < numbers.length; i++) {
+            numbers[i] = random.nextInt(wildness) == 0 ? wild() : number(words[i + 1]);
+        }
+        return numbers;
+    }
+
+    /** Looking after each call leaves fewer calls to the run: so that most runs look at their end alone. */
+    private boolean step(String call, int... numbers) {
         int due = plain.call(call, numbers);
-        int got = answer(methods.get(call), numbers);
-        told.add(call + Arrays.toString(numbers) + " answered " + got + " with STATUS " + yard.status() + ", due is " + due
-            + " with " + plain.call("status", numbers));
-        return got == due && isLike();
+        int got = answer(call, numbers);
+        told.add(call + Arrays.toString(numbers) + " answered " + got + ", due is " + due + " with STATUS "
+            + plain.call("status", NO_NUMBERS));
+        return got == due && (!looksOften || isLike());
     }
 
-    /** All that a yard can hold; more calls than are promised for, but none may throw, and no row may be overrun. */
-    private boolean fills(Map<String, Method> methods) throws IllegalAccessException {
+    /** Rows up to their ends: HIVES and their BOXES, FRAMES and the BENCH, THINGS and their lines, the LEDGER. */
+    private boolean fills(int what) {
         boolean like = true;
-        for (int i = 0; i < 40 * 8 && like; i++) {
-            like = (i % 8 > 0 || step(methods, "hive", i * 60)) && step(methods, "box", i / 8);
-        }
-        for (int i = 0; i < 200 && like; i++) {
-            like = step(methods, "frame", 3839 - i * 19, 64 - i % 3) && step(methods, "thing", i % 4)
-                && step(methods, "harvest", 3839 - i * 19) && (i < 2 || step(methods, "line", i, (i - 1) / 16 * 4, -1));
-        }
-        for (int i = 0; i < 40 && like; i++) {
-            like = step(methods, "slot", i, i) && step(methods, "bring", i, 9000)
-                && (i >= 24 || step(methods, "out", 3839 - i * 19));
+        for (int i = 0; like && calls + CALLS_OF_A_STEP <= CALLS * 7 / 8; i++) {
+            switch (what) {
+                case 0:
+                    like = i % 9 == 0 ? step("hive", i * 60) : step("box", i / 9);
+                    break;
+                case 1:
+                    like = i < 27 ? i % 9 == 0 ? step("hive", i * 60) : step("box", i / 9)
+                        : i < 230 ? step("frame", 287 - (i - 27), 64 - i % 3) : step("out", 287 - (i - 230));
+                    break;
+                case 2:
+                    like = i % 2 == 0 ? step("thing", i / 2 % 4) : step("line", i / 2, (i / 2 - 1) / 16 * 4, -1);
+                    break;
+                default:
+                    like = i == 0 ? step("hive", 9000) : i == 1 ? step("box", 0) : i == 2 ? step("frame", 3, 64)
+                        : i % 2 == 0 ? step("bring", 0, i) : step("harvest", 3);
+                    break;
+            }
         }
         return like;
     }
 
-    private boolean isLike() {
-        int[] none = {};
-        return yard.status() == plain.call("status", none) && yard.moved() == plain.call("moved", none)
-            && yard.digest() == plain.call("digest", none);
+    /** Into a yard as full as it can be, and on from there: nothing is held but that no call throws. */
+    private boolean goesOn() {
+        try {
+            for (int i = 0; i < 40 * 8; i++) {
+                callBoth("hive", i * 60);
+                callBoth("box", i / 8);
+            }
+            for (int i = 0; i < 200; i++) {
+                callBoth("frame", 3839 - i * 19, 64 - i % 3);
+                callBoth("thing", i % 4);
+                callBoth("harvest", 3839 - i * 19);
+                callBoth("line", i, (i - 1) / 16 * 4, -1);
+            }
+            for (int i = 0; i < MORE_CALLS; i++) {
+                String[] words = drawn.get(random.nextInt(drawn.size())).split(" ");
+                callBoth(words[0], numbers(words));
+            }
+            return true;
+        } catch (IllegalStateException e) {
+            told.add(e + ", " + e.getCause());
+            return false;
+        }
     }
 
-    private int answer(Method method, int[] numbers) throws IllegalAccessException {
-        Object[] boxed = Arrays.stream(numbers).boxed().toArray();
-        try {
-            return (Integer) method.invoke(yard, boxed);
-        } catch (InvocationTargetException e) {
-            e.getCause().printStackTrace();
-            return Integer.MIN_VALUE;
+    /** PlainYard goes along, since the numbers are drawn by what it has. */
+    private void callBoth(String call, int... numbers) {
+        plain.call(call, numbers);
+        answer(call, numbers);
+    }
+
+    private boolean isLike() {
+        for (String look : new String[] {"status", "moved", "digest"}) {
+            int due = plain.call(look, NO_NUMBERS);
+            int got = answer(look, NO_NUMBERS);
+            if (got != due) {
+                told.add(look + " answered " + got + ", due is " + due);
+                return false;
+            }
         }
+        return true;
+    }
+
+    private int answer(String call, int... numbers) {
+        calls++;
+        return Calls.make(yard, call, numbers);
     }
 
     /** A run begins with some building, so that later calls find something. */
